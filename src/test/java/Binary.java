@@ -139,6 +139,11 @@ final class Binary {
         return section(4, entries);
     }
 
+    /** One table without a second limit, whose first one is written so. */
+    static byte[] tablesOf(byte[] least) {
+        return section(4, join(bytes(1, 0x70, 0), least));
+    }
+
     static byte[] memories(byte[]... limits) {
         return section(5, limits);
     }
