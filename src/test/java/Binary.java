@@ -189,7 +189,7 @@ final class Binary {
         return sized(join(bytes(0), join(instructions), bytes(0x0b)));
     }
 
-    static byte[] body(byte[] locals, byte[] instructions) {
+    static byte[] bodyWith(byte[] locals, byte[] instructions) {
         return sized(join(locals, instructions, bytes(0x0b)));
     }
 

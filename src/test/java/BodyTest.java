@@ -41,7 +41,7 @@ public final class BodyTest {
     /** A function of i32 and i64 to the result, in a MODULE with a table, a memory and two globals. */
     private static void due(int fault, int result, String what, byte[]... instructions) {
         int type = result == NO ? 0 : result == I32 ? 1 : 2;
-        byte[] body = Binary.body(Binary.bytes(2, 1, I64, 2, I32), Binary.join(instructions));
+        byte[] body = Binary.bodyWith(Binary.bytes(2, 1, I64, 2, I32), Binary.join(instructions));
         CHECKS.same(what, Binary.faultOf(Binary.module(TYPES, Binary.functions(type, 4),
             Binary.tables(Binary.limits(1)), Binary.memories(Binary.limits(1)), GLOBALS,
             Binary.codes(body, Binary.body(B)))), fault);

@@ -303,12 +303,12 @@ public final class FaultTest {
         due(1, "a body too short for its size", NULLARY, ONE, Binary.section(10, Binary.bytes(1, 3, 0, 0x0b)));
         due(1, "a body that takes of the next", NULLARY, Binary.functions(0, 0),
             Binary.section(10, Binary.bytes(2, 1, 0, 0x0b, 2, 0, 0x0b)));
-        due(1, "locals of a float", NULLARY, ONE, Binary.codes(Binary.body(Binary.locals(1, 0x7d), Binary.NOTHING)));
+        due(1, "locals of a float", NULLARY, ONE, Binary.codes(Binary.bodyWith(Binary.locals(1, 0x7d), Binary.NOTHING)));
         due(0, "groups of no locals", NULLARY, ONE,
-            Binary.codes(Binary.body(Binary.bytes(3, 0, I32, 0, I64, 0, I32), Binary.NOTHING)));
-        due(1, "locals of 2 to the 32nd", NULLARY, ONE, Binary.codes(Binary.body(
+            Binary.codes(Binary.bodyWith(Binary.bytes(3, 0, I32, 0, I64, 0, I32), Binary.NOTHING)));
+        due(1, "locals of 2 to the 32nd", NULLARY, ONE, Binary.codes(Binary.bodyWith(
             Binary.join(Binary.bytes(2), Binary.u32(0xffffffffL), Binary.bytes(I32, 1, I32)), Binary.NOTHING)));
-        due(3, "locals of one less", NULLARY, ONE, Binary.codes(Binary.body(
+        due(3, "locals of one less", NULLARY, ONE, Binary.codes(Binary.bodyWith(
             Binary.join(Binary.bytes(1), Binary.u32(0xffffffffL), Binary.bytes(I32)), Binary.NOTHING)));
     }
 
@@ -398,18 +398,18 @@ public final class FaultTest {
     }
 
     private static void tooMuchInBodies() {
-        due(0, "30 locals", NULLARY, ONE, Binary.codes(Binary.body(Binary.locals(30, I32), Binary.NOTHING)));
-        due(3, "31 locals", NULLARY, ONE, Binary.codes(Binary.body(Binary.locals(31, I32), Binary.NOTHING)));
+        due(0, "30 locals", NULLARY, ONE, Binary.codes(Binary.bodyWith(Binary.locals(30, I32), Binary.NOTHING)));
+        due(3, "31 locals", NULLARY, ONE, Binary.codes(Binary.bodyWith(Binary.locals(31, I32), Binary.NOTHING)));
         due(3, "31 locals in groups", NULLARY, ONE,
-            Binary.codes(Binary.body(Binary.bytes(3, 10, I32, 10, I64, 11, I32), Binary.NOTHING)));
+            Binary.codes(Binary.bodyWith(Binary.bytes(3, 10, I32, 10, I64, 11, I32), Binary.NOTHING)));
         byte[] three = Binary.types(Binary.type(NO, I32, I32, I64));
         due(0, "30 locals with parameters", three, ONE,
-            Binary.codes(Binary.body(Binary.locals(27, I64), Binary.NOTHING)));
+            Binary.codes(Binary.bodyWith(Binary.locals(27, I64), Binary.NOTHING)));
         due(3, "31 locals with parameters", three, ONE,
-            Binary.codes(Binary.body(Binary.locals(28, I64), Binary.NOTHING)));
+            Binary.codes(Binary.bodyWith(Binary.locals(28, I64), Binary.NOTHING)));
         due(3, "31 locals with parameters behind an import", Binary.types(Binary.type(NO), Binary.type(NO, I32)),
             importing(0, Binary.u32(0)), Binary.functions(1),
-            Binary.codes(Binary.body(Binary.locals(30, I64), Binary.NOTHING)));
+            Binary.codes(Binary.bodyWith(Binary.locals(30, I64), Binary.NOTHING)));
         for (int op : new int[] {2, 3}) {
             byte[] open = Binary.bytes(op, NO);
             body(0, "30 blocks", Binary.repeat(30, open), Binary.repeat(30, Binary.op(0x0b)));
@@ -437,7 +437,7 @@ public final class FaultTest {
         due(1, "malformed behind a body that is not valid", NULLARY, Binary.functions(0, 0),
             Binary.codes(Binary.body(Binary.op(0x1a)), Binary.body(Binary.op(0x06))));
         due(3, "too much behind a body that is not valid", NULLARY, Binary.functions(0, 0),
-            Binary.codes(Binary.body(Binary.op(0x1a)), Binary.body(Binary.locals(31, I32), Binary.NOTHING)));
+            Binary.codes(Binary.body(Binary.op(0x1a)), Binary.bodyWith(Binary.locals(31, I32), Binary.NOTHING)));
         due(1, "malformed behind too many blocks", NULLARY, ONE, Binary.codes(Binary.body(
             Binary.repeat(31, Binary.bytes(2, NO)), Binary.repeat(30, Binary.op(0x0b)))));
         due(1, "malformed behind too many labels", NULLARY, ONE, Binary.codes(Binary.body(
