@@ -382,6 +382,12 @@ public final class BodyTest {
             due(0, NO, "dead local.tee", ender, Binary.op(0x22, 1), Binary.set(1));
             due(2, NO, "dead local.tee of another", ender, Binary.op(0x22, 1), Binary.set(0));
         }
+        due(2, NO, "dead in another block only", block(NO, DEAD), block(NO, DROP));
+        due(2, NO, "dead in another if only", A, when(NO, DEAD), A, when(NO, ELSE, DROP));
+        CHECKS.same("dead in another function only", Binary.faultOf(Binary.module(TYPES, Binary.functions(3, 3),
+            Binary.codes(Binary.body(DEAD), Binary.body(DROP)))), 2);
+        CHECKS.same("nothing stays of another function", Binary.faultOf(Binary.module(TYPES, Binary.functions(3, 3),
+            Binary.codes(Binary.body(A, RETURN), Binary.body(DROP)))), 2);
         due(0, I32, "dead gives", DEAD);
         due(0, I32, "dead gives its own", DEAD, A);
         due(2, I32, "dead gives another", DEAD, B);

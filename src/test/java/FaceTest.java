@@ -250,6 +250,15 @@ public final class FaceTest {
             CHECKS.throwing("told(1, " + what + ")", () -> x.told(1, what), IllegalArgumentException.class);
             CHECKS.throwing("told(2, " + what + ")", () -> x.told(2, what), IndexOutOfBoundsException.class);
         }
+        x.clear();
+        Binary.feed(x, EMPTY);
+        x.add();
+        Binary.feed(x, EMPTY);
+        x.add();
+        for (int what = 0; what < 8; what++) {
+            int asked = what;
+            CHECKS.answers("told(1, " + what + ") of a new one", () -> x.told(1, asked), 0);
+        }
         CHECKS.throwing("told(0, 10)", () -> x.told(0, 10), IllegalArgumentException.class);
         CHECKS.throwing("told(-1, 0)", () -> x.told(-1, 0), IndexOutOfBoundsException.class);
         CHECKS.throwing("told(2, 0)", () -> x.told(2, 0), IndexOutOfBoundsException.class);

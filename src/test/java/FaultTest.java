@@ -72,7 +72,10 @@ public final class FaultTest {
         }
         for (int id : new int[] {12, 13, 64, 127, 128, 255}) {
             due(1, "section " + id, Binary.section(id));
+            due(1, "section " + id + " of no bytes", Binary.bytes(id, 0));
         }
+        due(1, "what is left of a section could be one", Binary.section(1, Binary.bytes(0, 0, 1, 0)));
+        due(1, "what is left of a custom section is not there", Binary.bytes(0, 5, 0));
         due(1, "a section longer than the rest", Binary.bytes(1, 2, 0));
         due(1, "a section without a size", Binary.bytes(1));
         due(1, "a section far too long", Binary.bytes(1, 0xff, 0xff, 0xff, 0xff, 0x0f, 0));
@@ -85,6 +88,9 @@ public final class FaultTest {
         due(0, "custom sections everywhere", custom, custom, NULLARY, custom, ONE, custom,
             Binary.codes(BODY), custom, custom);
         due(0, "an empty name", Binary.section(0, Binary.name("")));
+        for (int more : new int[] {62, 63, 64, 125, 126, 127, 128}) {
+            due(0, "with more bytes", Binary.section(0, Binary.join(Binary.name(""), new byte[more])));
+        }
         due(0, "a long name", Binary.section(0, Binary.name("123456789012345678901234567890")));
         due(0, "a name of any bytes", Binary.section(0, Binary.name("\u00ff\u0080\u00c0")));
         due(1, "no name", Binary.section(0, Binary.NOTHING));
@@ -265,6 +271,8 @@ public final class FaultTest {
         due(2, "at a global that can be set", table, global, Binary.elements(Binary.element(Binary.op(0x23, 1))));
         due(2, "at a global of i64", table, global, Binary.elements(Binary.element(Binary.op(0x23, 2))));
         due(2, "at no global", table, global, Binary.elements(Binary.element(Binary.op(0x23, 3))));
+        due(2, "at the greatest global", table, global,
+            Binary.elements(Binary.element(Binary.op(0x23, 0xffffffffL))));
         due(1, "at nothing", table, Binary.section(9, Binary.bytes(1, 0, 0x0b, 0)));
         due(1, "more functions than bytes", table, Binary.section(9, Binary.bytes(1, 0, 0x41, 0, 0x0b, 2, 0)));
     }
@@ -278,6 +286,7 @@ public final class FaultTest {
         due(2, "in another memory", memory, Binary.section(11, Binary.bytes(1, 1, 0x41, 0, 0x0b, 0)));
         due(2, "at an i64", memory, Binary.data(Binary.datum(Binary.i64(0), 1)));
         due(2, "at no global", memory, Binary.data(Binary.datum(Binary.op(0x23, 0), 1)));
+        due(2, "at the greatest global", memory, Binary.data(Binary.datum(Binary.op(0x23, 0xffffffffL), 1)));
         due(0, "in an imported memory at an imported global",
             Binary.imports(Binary.imported("a", "b", 3, Binary.bytes(I32, 0)),
                 Binary.imported("a", "m", 2, Binary.limits(1))), Binary.data(Binary.datum(Binary.op(0x23, 0), 1)));
@@ -301,6 +310,8 @@ public final class FaultTest {
         due(1, "more behind the end", NULLARY, ONE, Binary.codes(Binary.bytes(3, 0, 0x0b, 0x01)));
         due(1, "two ends", NULLARY, ONE, Binary.codes(Binary.bytes(3, 0, 0x0b, 0x0b)));
         due(1, "a body too short for its size", NULLARY, ONE, Binary.section(10, Binary.bytes(1, 3, 0, 0x0b)));
+        due(1, "what is left of a body could be one", NULLARY, Binary.functions(0, 0),
+            Binary.section(10, Binary.bytes(2, 5, 0, 0x0b, 2, 0, 0x0b)));
         due(1, "a body that takes of the next", NULLARY, Binary.functions(0, 0),
             Binary.section(10, Binary.bytes(2, 1, 0, 0x0b, 2, 0, 0x0b)));
         due(1, "locals of a float", NULLARY, ONE, Binary.codes(Binary.bodyWith(Binary.locals(1, 0x7d), Binary.NOTHING)));
@@ -315,6 +326,11 @@ public final class FaultTest {
     /** How numbers are written. */
     private static void numbers() {
         due(0, "a number with zeros behind", Binary.section(1, Binary.bytes(0x80, 0x80, 0x80, 0x80, 0x00)));
+        due(1, "a number of five bytes and more", Binary.section(1, Binary.bytes(0x80, 0x80, 0x80, 0x80, 0x80)));
+        due(1, "i32 of five bytes and more", constant(I32, 0x80, 0x80, 0x80, 0x80, 0x80));
+        due(1, "-1 of five bytes and more", constant(I32, 0xff, 0xff, 0xff, 0xff, 0xff));
+        due(1, "i64 of ten bytes and more",
+            constant(I64, 0x80, 0x80, 0x80, 0x80, 0x80, 0x80, 0x80, 0x80, 0x80, 0x80));
         due(1, "a number of six bytes", Binary.section(1, Binary.bytes(0x80, 0x80, 0x80, 0x80, 0x80, 0x00)));
         due(1, "a number of 33 bits", Binary.tablesOf(Binary.bytes(0xff, 0xff, 0xff, 0xff, 0x1f)));
         due(3, "a number of 32 bits", Binary.tablesOf(Binary.bytes(0xff, 0xff, 0xff, 0xff, 0x0f)));
@@ -347,6 +363,12 @@ public final class FaultTest {
         byte[] own = Binary.global(I32, 0, ZERO);
         due(0, "40 types", Binary.types(Binary.times(40, type)));
         due(3, "41 types", Binary.types(Binary.times(41, type)));
+        byte[] forty = Binary.types(Binary.times(40, type));
+        due(0, "the last of 40 types", forty, Binary.functions(39), Binary.codes(BODY));
+        due(2, "type 40 of 40", forty, Binary.functions(40), Binary.codes(BODY));
+        due(2, "an import of type 40 of 40", forty, importing(0, Binary.u32(40)));
+        due(2, "an indirect call of type 40 of 40", forty, ONE, Binary.tables(Binary.limits(0)),
+            Binary.codes(Binary.body(ZERO, Binary.indirect(40))));
         due(0, "30 imports", NULLARY, Binary.imports(Binary.times(30, function)));
         due(3, "31 imports", NULLARY, Binary.imports(Binary.times(31, function)));
         due(0, "60 functions", NULLARY, Binary.functions(new int[60]), Binary.codes(Binary.times(60, BODY)));

@@ -22,6 +22,7 @@ public final class MergeTest {
         missing();
         chains();
         chainLimits();
+        longChain();
         rings();
         twice();
         hosts();
@@ -59,6 +60,27 @@ public final class MergeTest {
             Binary.global(I64, 1, Binary.i64(4))),
             Binary.exports(Binary.export("0", 3, 0), Binary.export("1", 3, 1), Binary.export("2", 3, 2),
                 Binary.export("3", 3, 3)));
+    }
+
+    /** Each of 180 imports is what the next one FITS; behind the last there is none. */
+    private static void longChain() {
+        byte[][] modules = new byte[6][];
+        for (int k = 0; k < 6; k++) {
+            byte[][] imports = new byte[30][];
+            byte[][] exports = new byte[30][];
+            for (int i = 0; i < 30; i++) {
+                int next = k == 5 ? i + 1 : i;
+                imports[i] = Binary.imported(String.valueOf((char) ('a' + (k + 1) % 6)), "n" + next, 0, Binary.u32(1));
+                exports[i] = Binary.export("n" + i, 0, i);
+            }
+            modules[k] = Binary.module(TYPES, Binary.imports(imports), Binary.exports(exports));
+        }
+        WasmMerge x = Binary.merged(modules);
+        CHECKS.same("a chain of all imports: hosts", x.count(1), 1);
+        CHECKS.same("a chain of all imports: functions", x.count(2), 1);
+        x.begin();
+        CHECKS.answers("a chain of all imports: call", () -> x.call(0, 0), 0);
+        CHECKS.same("a chain of all imports: output", x.count(7), 1);
     }
 
     private static byte[] table(byte[] limits) {
@@ -121,6 +143,11 @@ public final class MergeTest {
             CHECKS.answers("count(" + what + ")", () -> x.count(asked), before[what]);
         }
         CHECKS.answers("check", x::check, 0);
+        CHECKS.answers("merge again", x::merge, 6);
+        for (int what = 0; what < 8; what++) {
+            int asked = what;
+            CHECKS.answers("count(" + what + ") again", () -> x.count(asked), before[what]);
+        }
         x.begin();
         int[] behind = {3, 2, 6, 5, 11, 2, 17, 0};
         for (int what = 0; what < 8; what++) {

@@ -82,6 +82,16 @@ public final class RunTest {
             int asked = j;
             CHECKS.throwing("global of none such", () -> x.global(0, asked), IllegalArgumentException.class);
         }
+        WasmMerge six = Binary.running(withElements(), Binary.module(), growing(Binary.limits(0)), Binary.module(),
+            Binary.module(), Binary.module());
+        CHECKS.throwing("call of module 6", () -> six.call(6, 0), IndexOutOfBoundsException.class);
+        six.clear();
+        Binary.feed(six, Binary.module());
+        six.add();
+        six.merge();
+        six.begin();
+        CHECKS.throwing("call of what is gone", () -> six.call(2, 0), IndexOutOfBoundsException.class);
+        CHECKS.throwing("call of what was there before", () -> six.call(0, 0), IndexOutOfBoundsException.class);
         x.argument(3);
         CHECKS.throwing("three arguments for two", () -> x.call(0, 0), IllegalArgumentException.class);
         CHECKS.answers("arguments stay", () -> x.argument(4), 4);
@@ -396,24 +406,34 @@ public final class RunTest {
             CHECKS.answers("take", x::take, number);
         }
         CHECKS.same("all taken", x.count(7), 0);
+        WasmMerge below = Binary.running(Binary.module(Binary.types(Binary.type(I32, I32, I64), Binary.type(NO, I64),
+            Binary.type(I32)), Binary.imports(Binary.imported("h", "x", 0, Binary.u32(0)),
+            Binary.imported("h", "y", 0, Binary.u32(1))), Binary.functions(2), Binary.exports(Binary.export("f", 0, 2)),
+            Binary.codes(Binary.body(Binary.i32(10), Binary.i32(5), Binary.i64(6), Binary.call(0), ADD, Binary.i64(7),
+                Binary.call(1)))));
+        CHECKS.answers("a host takes its arguments alone", () -> below.call(0, 0), 10);
+        for (long number : new long[] {0, 5, 6, 1, 7}) {
+            CHECKS.answers("take", below::take, number);
+        }
         x.call(0, 3);
         CHECKS.same("1999 numbers", x.count(7), 1999);
         Binary.callWith(x, 0, 1, 5, 6);
         CHECKS.same("at most 2000", x.count(7), 2000);
         Binary.callWith(x, 0, 2, 5);
         CHECKS.same("still 2000", x.count(7), 2000);
-        for (int i = 0; i < 1999; i++) {
-            x.take();
-        }
-        CHECKS.answers("the last", x::take, 1);
-        CHECKS.answers("no more", x::take, 0);
+        CHECKS.answers("take of 2000", x::take, 0);
+        CHECKS.same("one taken", x.count(7), 1999);
+        Binary.callWith(x, 0, 1, 5, 6);
+        CHECKS.same("2000 again", x.count(7), 2000);
+        x.begin();
         Binary.callWith(x, 0, 2, 8);
-        CHECKS.answers("and again", x::take, 2);
-        CHECKS.answers("and again", x::take, 8);
         Binary.callWith(x, 0, 2, 9);
+        CHECKS.answers("number", x::take, 2);
+        CHECKS.answers("argument", x::take, 8);
         x.clear();
         CHECKS.answers("output stays without the run", x::take, 2);
         CHECKS.answers("output stays without the run", x::take, 9);
+        CHECKS.answers("no more", x::take, 0);
     }
 
     private static void unreachable() {
@@ -589,6 +609,9 @@ public final class RunTest {
             Binary.op(0x0c, 1)), DROP, Binary.i32(6)), ADD);
         result("br to the function", 5, Binary.i32(9), block(NO, Binary.i32(5), Binary.op(0x0c, 1)));
         result("return", 6, Binary.i32(9), block(NO, Binary.i32(8), Binary.i32(6), Binary.op(0x0f)));
+        result("br to the function with nothing", 8, Binary.i32(5), Binary.call(1), Binary.i32(3), ADD);
+        result("return with nothing", 8, Binary.i32(5), Binary.call(2), Binary.i32(3), ADD);
+        result("end with nothing", 8, Binary.i32(5), Binary.call(3), Binary.i32(3), ADD);
         result("br_if that goes", 7, block(I32, Binary.i32(7), ONE, Binary.op(0x0d, 0), DROP, Binary.i32(8)));
         result("br_if that stays", 8, block(I32, Binary.i32(7), ZERO, Binary.op(0x0d, 0), DROP, Binary.i32(8)));
         result("br_if by -1", 7, block(I32, Binary.i32(7), Binary.i32(-1), Binary.op(0x0d, 0), DROP, Binary.i32(8)));
@@ -616,8 +639,14 @@ public final class RunTest {
             Binary.get(0));
     }
 
+    /** Functions 1 to 3 leave something behind and end with br, with return, and by themselves. */
     private static void result(String what, long due, byte[]... instructions) {
-        WasmMerge x = Binary.running(single(Binary.type(I32), instructions));
+        WasmMerge x = Binary.running(Binary.module(Binary.types(Binary.type(I32), Binary.type(NO)),
+            Binary.functions(0, 1, 1, 1), Binary.exports(Binary.export("f", 0, 0)),
+            Binary.codes(Binary.bodyWith(Binary.locals(2, I32), Binary.join(instructions)),
+                Binary.body(Binary.i32(70), block(NO, Binary.i32(71), Binary.op(0x0c, 1)), DROP),
+                Binary.body(Binary.i32(70), block(NO, Binary.i32(71), Binary.op(0x0f)), DROP),
+                Binary.bodyWith(Binary.locals(3, I64), Binary.join(Binary.i32(71), DROP)))));
         CHECKS.answers(what, () -> x.call(0, 0), due);
     }
 
