@@ -531,7 +531,7 @@ public final class WasmMerge {
         }
 
         /** A u32 that is an index or a power: beyond int it is too large for any use anyway. */
-        int index() {
+        int cappedU32() {
             return (int) Math.min(u32(), Integer.MAX_VALUE);
         }
 
@@ -606,18 +606,18 @@ public final class WasmMerge {
                     readBlockType();
                     break;
                 case SHAPE_INDEX:
-                    index = index();
+                    index = cappedU32();
                     break;
                 case SHAPE_LABELS:
                     labelCount = vector();
                     readLabels();
                     break;
                 case SHAPE_INDIRECT:
-                    index = index();
+                    index = cappedU32();
                     expect(0);
                     break;
                 case SHAPE_ACCESS:
-                    index = index();
+                    index = cappedU32();
                     number = u32();
                     break;
                 case SHAPE_RESERVED:
@@ -756,7 +756,7 @@ public final class WasmMerge {
                 case 5: readMemories(); break;
                 case 6: readGlobals(); break;
                 case 7: readExports(); break;
-                case 8: module.start = reader.index(); break;
+                case 8: module.start = reader.cappedU32(); break;
                 case 9: readElements(); break;
                 case 11: readData(); break;
                 default: reader.bad = true; break;
@@ -820,7 +820,7 @@ public final class WasmMerge {
         private void readImported(Port port) {
             switch (port.sort) {
                 case SORT_FUNCTION:
-                    port.type = reader.index();
+                    port.type = reader.cappedU32();
                     port.index = module.functionCount;
                     nextFunction().type = port.type;
                     break;
@@ -885,7 +885,7 @@ public final class WasmMerge {
             ownFunctions = reader.vector();
             firstOwn = module.functionCount;
             for (int i = 0; i < ownFunctions && !reader.bad; i++) {
-                nextFunction().type = reader.index();
+                nextFunction().type = reader.cappedU32();
             }
         }
 
@@ -921,7 +921,7 @@ public final class WasmMerge {
             switch (part.op) {
                 case OP_I32_CONST: part.value = reader.signed(32); break;
                 case OP_I64_CONST: part.value = reader.signed(64); break;
-                case OP_GLOBAL_GET: part.value = reader.index(); break;
+                case OP_GLOBAL_GET: part.value = reader.cappedU32(); break;
                 default: reader.bad = true; break;
             }
             reader.expect(OP_END);
@@ -935,7 +935,7 @@ public final class WasmMerge {
                 port.nameAt = reader.at - port.nameLength;
                 port.sort = reader.u8();
                 reader.bad |= port.sort > SORT_GLOBAL;
-                port.index = reader.index();
+                port.index = reader.cappedU32();
             }
             over |= many > MOST_EXPORTS;
             module.exportCount = Math.min(many, MOST_EXPORTS);
@@ -945,7 +945,7 @@ public final class WasmMerge {
             int many = reader.vector();
             for (int i = 0; i < many && !reader.bad; i++) {
                 Part part = i < MOST_ELEMENTS ? module.elements[i] : sparePart;
-                part.target = reader.index();
+                part.target = reader.cappedU32();
                 readInitial(part);
                 part.size = reader.vector();
                 part.at = reader.at;
@@ -961,7 +961,7 @@ public final class WasmMerge {
             int many = reader.vector();
             for (int i = 0; i < many && !reader.bad; i++) {
                 Part part = i < MOST_DATA ? module.data[i] : sparePart;
-                part.target = reader.index();
+                part.target = reader.cappedU32();
                 readInitial(part);
                 part.size = reader.vector();
                 part.at = reader.at;
@@ -1178,7 +1178,7 @@ public final class WasmMerge {
             }
             int groups = reader.vector();
             for (int i = 0; i < groups; i++) {
-                int many = reader.index();
+                int many = reader.cappedU32();
                 int type = reader.valueType();
                 for (int n = 0; n < many && filled < MOST_LOCALS; n++) {
                     locals[filled] = type;
@@ -1855,7 +1855,7 @@ public final class WasmMerge {
                 }
                 reader.open(module.bytes, part.at, ROW_BYTES);
                 for (int n = 0; n < part.size; n++) {
-                    table[(int) at + n] = link.functionAt(k, reader.index());
+                    table[(int) at + n] = link.functionAt(k, reader.cappedU32());
                 }
             }
         }

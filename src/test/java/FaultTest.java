@@ -103,6 +103,9 @@ public final class FaultTest {
         due(0, "six parameters", Binary.types(Binary.type(I64, I32, I64, I32, I64, I32, I64)));
         due(1, "seven parameters", Binary.types(Binary.type(NO, I32, I32, I32, I32, I32, I32, I32)));
         due(1, "two results", Binary.types(Binary.bytes(0x60, 0, 2, I32, I32)));
+        due(1, "two results that could be a type", Binary.section(1, Binary.bytes(2, 0x60, 0, 2, 0x60, 0, 0)));
+        due(1, "seven parameters that could be two types",
+            Binary.section(1, Binary.bytes(3, 0x60, 7, 0, 0x60, 0, 0, 0x60, 0, 0)));
         for (int type : new int[] {0x7d, 0x7c, 0x7b, 0x70, 0x6f, 0x40, 0x00, 0xff}) {
             due(1, "parameter " + type, Binary.types(Binary.type(NO, type)));
             due(1, "result " + type, Binary.types(Binary.bytes(0x60, 0, 1, type)));
@@ -132,6 +135,7 @@ public final class FaultTest {
         due(1, "global of a float", importing(3, Binary.bytes(0x7d, 0)));
         due(1, "sort 4", NULLARY, importing(4, Binary.u32(0)));
         due(1, "sort 255", NULLARY, importing(255, Binary.u32(0)));
+        due(1, "sort 4 of no more bytes", NULLARY, importing(4, Binary.NOTHING));
         due(1, "names longer than the section", Binary.section(2, Binary.bytes(1, 1, 'a', 9, 'b', 0, 0)));
         due(0, "the same import twice", NULLARY, Binary.imports(Binary.imported("a", "b", 0, Binary.u32(0)),
             Binary.imported("a", "b", 0, Binary.u32(0))));
@@ -345,8 +349,10 @@ public final class FaultTest {
         due(1, "i32 of six bytes", constant(I32, 0x80, 0x80, 0x80, 0x80, 0x80, 0x00));
         due(0, "i64 of ten bytes", constant(I64, 0x80, 0x80, 0x80, 0x80, 0x80, 0x80, 0x80, 0x80, 0x80, 0x00));
         due(0, "least i64", constant(I64, 0x80, 0x80, 0x80, 0x80, 0x80, 0x80, 0x80, 0x80, 0x80, 0x7f));
-        due(1, "i64 that is too large", constant(I64, 0xff, 0xff, 0xff, 0xff, 0xff, 0xff, 0xff, 0xff, 0xff, 0x01));
-        due(1, "i64 that is too small", constant(I64, 0x80, 0x80, 0x80, 0x80, 0x80, 0x80, 0x80, 0x80, 0x80, 0x7e));
+        due(1, "i64 that is too large",
+            constant(I64, 0xff, 0xff, 0xff, 0xff, 0xff, 0xff, 0xff, 0xff, 0xff, 0x01));
+        due(1, "i64 that is too small",
+            constant(I64, 0x80, 0x80, 0x80, 0x80, 0x80, 0x80, 0x80, 0x80, 0x80, 0x7e));
         due(1, "i64 of eleven bytes",
             constant(I64, 0x80, 0x80, 0x80, 0x80, 0x80, 0x80, 0x80, 0x80, 0x80, 0x80, 0x00));
     }

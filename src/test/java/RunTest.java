@@ -41,6 +41,7 @@ public final class RunTest {
         tables();
         recursion();
         shared();
+        longCode();
         CHECKS.finish("RunTest");
     }
 
@@ -688,6 +689,39 @@ public final class RunTest {
                 Binary.call(0), Binary.repeat(150, ADD), ELSE, ZERO, END))));
         WasmMerge y = Binary.running(wide);
         CHECKS.answers("much on the stack", () -> Binary.callWith(y, 0, 0, 60), 150 * 61 * 30);
+    }
+
+    /** The MODULES whose code is longest for their bytes do not come near each other. */
+    private static void longCode() {
+        byte[] table = Binary.join(ONE, Binary.labels(0, new int[20]));
+        byte[] jump = Binary.join(Binary.bytes(0x02, NO), ONE, Binary.op(0x0d, 0), END);
+        byte[][] modules = new byte[6][];
+        for (int k = 0; k < 6; k++) {
+            byte[] long20 = Binary.repeat(120, Binary.join(Binary.bytes(0x02, NO), table, END));
+            modules[k] = Binary.module(Binary.types(Binary.type(I32)), Binary.functions(0, 0),
+                Binary.exports(Binary.export("f", 0, 0), Binary.export("g", 0, 1)),
+                Binary.codes(Binary.body(Binary.i32(k)),
+                    Binary.body(long20, Binary.repeat(50, jump), Binary.i32(10 + k))));
+        }
+        WasmMerge x = Binary.running(modules);
+        for (int k = 0; k < 6; k++) {
+            int module = k;
+            CHECKS.answers("short code", () -> x.call(module, 0), k);
+            CHECKS.answers("long code", () -> x.call(module, 1), 10 + k);
+        }
+        byte[][] dense = new byte[2][];
+        for (int k = 0; k < 2; k++) {
+            dense[k] = Binary.module(Binary.types(Binary.type(I32)), Binary.functions(0, 0),
+                Binary.exports(Binary.export("f", 0, 0), Binary.export("g", 0, 1)),
+                Binary.codes(Binary.body(Binary.i32(30 + k), Binary.op(0x0f), Binary.repeat(160,
+                    Binary.labels(0, new int[20]))), Binary.body(Binary.i32(20 + k))));
+        }
+        WasmMerge y = Binary.running(dense);
+        for (int k = 0; k < 2; k++) {
+            int module = k;
+            CHECKS.answers("dense code", () -> y.call(module, 0), 30 + k);
+            CHECKS.answers("code behind it", () -> y.call(module, 1), 20 + k);
+        }
     }
 
     /** What one MODULE writes another reads: a memory, a table and a global of all. */
