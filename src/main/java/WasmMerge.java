@@ -1645,7 +1645,8 @@ public final class WasmMerge {
 
         /** The number of the MODULE that an import of MODULE k names; NONE if it was not added. */
         private int moduleFor(int k, Port port) {
-            int named = port.moduleLength == 1 ? modules[k].bytes[port.moduleAt] - 'a' : NONE;
+            boolean oneByte = port.moduleLength == 1 && port.moduleAt >= 0 && port.moduleAt < ROW_BYTES;
+            int named = oneByte ? modules[k].bytes[port.moduleAt] - 'a' : NONE;
             return named >= 0 && named < moduleCount ? named : NONE;
         }
 
