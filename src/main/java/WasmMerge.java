@@ -2262,14 +2262,33 @@ public final class WasmMerge {
                 case 1: return a == b;
                 case 2: return a != b;
                 case 3: return a < b;
-                case 4: return Long.compareUnsigned(a, b) < 0;
+                case 4: return isBelow(a, b);
                 case 5: return a > b;
-                case 6: return Long.compareUnsigned(a, b) > 0;
+                case 6: return isBelow(b, a);
                 case 7: return a <= b;
-                case 8: return Long.compareUnsigned(a, b) <= 0;
+                case 8: return !isBelow(b, a);
                 case 9: return a >= b;
-                default: return Long.compareUnsigned(a, b) >= 0;
+                default: return !isBelow(a, b);
             }
+        }
+
+        /** Of numbers without signs: what is added moves them to the same order with signs. */
+        private static boolean isBelow(long a, long b) {
+            return a + Long.MIN_VALUE < b + Long.MIN_VALUE;
+        }
+
+        /**
+         * Of numbers without signs, while Java's / knows signs: half of a has none, and twice its quotient is the
+         * right one or one too low; as is 0 where b has its highest bit set.
+         */
+        private static long quotient(long a, long b) {
+            if (b == 0) {
+                return 0;
+            }
+            long low = b < 0 ? 0 : (a >>> 1) / b << 1;
+            long rest = a - low * b;
+            // isBelow, written out here: it would be the ninth call in each other
+            return rest + Long.MIN_VALUE < b + Long.MIN_VALUE ? low : low + 1;
         }
 
         private static int narrow(int which, int a, int b) {
@@ -2281,9 +2300,9 @@ public final class WasmMerge {
                 case 4: return a - b;
                 case 5: return a * b;
                 case 6: return b == 0 ? 0 : a / b;
-                case 7: return b == 0 ? 0 : Integer.divideUnsigned(a, b);
+                case 7: return (int) quotient(a & LOW_32, b & LOW_32);
                 case 8: return b == 0 ? 0 : a % b;
-                case 9: return b == 0 ? 0 : Integer.remainderUnsigned(a, b);
+                case 9: return a - (int) quotient(a & LOW_32, b & LOW_32) * b;
                 case 10: return a & b;
                 case 11: return a | b;
                 case 12: return a ^ b;
@@ -2305,9 +2324,9 @@ public final class WasmMerge {
                 case 4: return a - b;
                 case 5: return a * b;
                 case 6: return b == 0 ? 0 : a / b;
-                case 7: return b == 0 ? 0 : Long.divideUnsigned(a, b);
+                case 7: return quotient(a, b);
                 case 8: return b == 0 ? 0 : a % b;
-                case 9: return b == 0 ? 0 : Long.remainderUnsigned(a, b);
+                case 9: return a - quotient(a, b) * b;
                 case 10: return a & b;
                 case 11: return a | b;
                 case 12: return a ^ b;

@@ -1,4 +1,5 @@
 import java.math.BigInteger;
+import java.util.Random;
 
 /** Term 1 and Promise 9: what each numeric INSTRUCTION, load and store gives, reckoned here by other means. */
 public final class NumbersTest {
@@ -23,6 +24,8 @@ public final class NumbersTest {
         for (int op = 0x67; op <= 0x8a; op++) {
             arithmetic(op);
         }
+        divisionsWithoutSigns();
+        neighboursOfProducts();
         conversions();
         loads();
         stores();
@@ -122,6 +125,70 @@ public final class NumbersTest {
             case 15: return signed(low.shiftRight(by), bits);
             case 16: return signed(low.shiftLeft(by).or(low.shiftRight(bits - by)), bits);
             default: return signed(low.shiftRight(by).or(low.shiftLeft(bits - by)), bits);
+        }
+    }
+
+    /** Each row: a dividend, a divisor, and the quotient and the rest that are due, written out. */
+    private static void divisionsWithoutSigns() {
+        long high = Long.MIN_VALUE;
+        long most = Long.MAX_VALUE;
+        long[][] rows = {
+            // neither has its highest bit set: the divisor below, the same, above, and 1
+            {100, 7, 14, 2}, {most, 2, 0x3fffffffffffffffL, 1}, {7, 7, 1, 0}, {most, most, 1, 0},
+            {7, 100, 0, 7}, {0, 1, 0, 0}, {0, most, 0, 0}, {most - 1, most, 0, most - 1}, {5, 1, 5, 0}, {most, 1, most, 0},
+            // the dividend has: the divisor is below, whatever it is
+            {high, 1, high, 0}, {-1, 1, -1, 0}, {high, 2, 0x4000000000000000L, 0}, {-1, 2, most, 1},
+            {-1, 3, 0x5555555555555555L, 0}, {-2, 3, 0x5555555555555554L, 2}, {-1, 10, 1844674407370955161L, 5},
+            {high, 10, 922337203685477580L, 8}, {high, most, 1, 1}, {-2, most, 2, 0}, {-1, most, 2, 1}, {-3, most, 1, most - 1},
+            {-1, 0x100000000L, 0xffffffffL, 0xffffffffL}, {high + 5, most, 1, 6},
+            // the divisor has: it is above
+            {0, high, 0, 0}, {1, high, 0, 1}, {most, high, 0, most}, {0, -1, 0, 0}, {1, -1, 0, 1}, {most, -1, 0, most},
+            {100, -7, 0, 100},
+            // both have: the divisor below, the same, above, and -1
+            {-1, high, 1, most}, {-1, -2, 1, 1}, {high + 1, high, 1, 1}, {high, high, 1, 0}, {-1, -1, 1, 0}, {-7, -7, 1, 0},
+            {high, high + 1, 0, high}, {high, -1, 0, high}, {-2, -1, 0, -2}, {-100, -7, 0, -100},
+        };
+        WasmMerge quotients = running(I64, I64, I64, 0x80, false);
+        WasmMerge rests = running(I64, I64, I64, 0x82, false);
+        for (long[] row : rows) {
+            String what = row[0] + " and " + row[1];
+            CHECKS.same("i64.div_u of " + what, Binary.callWith(quotients, 0, 0, row[0], row[1]), row[2]);
+            CHECKS.same("i64.rem_u of " + what, Binary.callWith(rests, 0, 0, row[0], row[1]), row[3]);
+        }
+        for (long dividend : new long[] {0, 1, most, high, -1}) {
+            CHECKS.same("i64.div_u of " + dividend + " and 0", Binary.callTrap(quotients, 0, 0, dividend, 0), 2);
+            CHECKS.same("i64.rem_u of " + dividend + " and 0", Binary.callTrap(rests, 0, 0, dividend, 0), 2);
+        }
+        CHECKS.same("i64.div_u behind a TRAP", Binary.callWith(quotients, 0, 0, -1, 2), most);
+        CHECKS.same("i64.rem_u behind a TRAP", Binary.callWith(rests, 0, 0, -1, 10), 5);
+    }
+
+    /** Dividends that lie at, one below and one above a multiple of the divisor, where a quotient changes. */
+    private static void neighboursOfProducts() {
+        Random random = new Random(6);
+        for (int op : new int[] {0x6e, 0x70, 0x80, 0x82}) {
+            divideNearProducts(op, random);
+        }
+    }
+
+    private static void divideNearProducts(int op, Random random) {
+        boolean wide = op >= 0x79;
+        int bits = wide ? 64 : 32;
+        int type = wide ? I64 : I32;
+        for (int round = 0; round < 40; round++) {
+            WasmMerge x = running(type, type, type, op, false);
+            for (int i = 0; i < 30; i++) {
+                BigInteger divisor = new BigInteger(1 + random.nextInt(bits), random).max(ONE);
+                BigInteger times = ONE.shiftLeft(bits).subtract(ONE).divide(divisor);
+                BigInteger product = i % 2 == 0 ? times.multiply(divisor)
+                    : new BigInteger(bits, random).mod(times.add(ONE)).multiply(divisor);
+                for (int away = -1; away <= 1; away++) {
+                    long a = signed(product.add(BigInteger.valueOf(away)), bits);
+                    long b = signed(divisor, bits);
+                    CHECKS.same(op + " of " + a + " and " + b, Binary.callWith(x, 0, 0, a, b),
+                        due(op - (wide ? 0x79 : 0x67), bits, a, b));
+                }
+            }
         }
     }
 
