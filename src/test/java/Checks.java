@@ -2,18 +2,45 @@
 final class Checks {
     private int right;
     private int wrong;
+    private String sentence = "";
+    private int before;
 
     /** A call that may throw. */
     interface Call {
         long run();
     }
 
+    /** What follows looks at this sentence of the document; a sentence at which nothing looks is wrong. */
+    void sentence(String text) {
+        endSentence();
+        sentence = "'" + text + "': ";
+        before = right + wrong;
+    }
+
+    private void endSentence() {
+        if (!sentence.isEmpty() && before == right + wrong) {
+            refuse("nothing was looked at");
+        }
+    }
+
+    private void refuse(String what) {
+        wrong++;
+        System.out.println(sentence + what);
+    }
+
     void same(String what, long got, long due) {
         if (got == due) {
             right++;
         } else {
-            wrong++;
-            System.out.println(what + " answered " + got + ", due is " + due);
+            refuse(what + " answered " + got + ", due is " + due);
+        }
+    }
+
+    void sameText(String what, String got, String due) {
+        if (got.equals(due)) {
+            right++;
+        } else {
+            refuse(what + " told " + got + ", due is " + due);
         }
     }
 
@@ -28,8 +55,7 @@ final class Checks {
         if (thrown.equals("nothing")) {
             same(what, got, due);
         } else {
-            wrong++;
-            System.out.println(what + " threw " + thrown + ", due is " + due);
+            refuse(what + " threw " + thrown + ", due is " + due);
         }
     }
 
@@ -43,12 +69,12 @@ final class Checks {
         if (got.equals("threw " + due.getSimpleName())) {
             right++;
         } else {
-            wrong++;
-            System.out.println(what + " " + got + ", due is " + due.getSimpleName());
+            refuse(what + " " + got + ", due is " + due.getSimpleName());
         }
     }
 
     void finish(String name) {
+        endSentence();
         System.out.println(name + ": " + right + " right, " + wrong + " wrong");
         if (wrong > 0 || right == 0) {
             System.exit(1);
