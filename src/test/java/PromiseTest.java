@@ -275,6 +275,18 @@ public final class PromiseTest {
         Binary.feed(x, EMPTY);
         CHECKS.answers("none of them is a MODULE", x::add, 1);
         CHECKS.answers("two are", x::clear, 2);
+        // nothing of a body that was not valid is seen in the next one
+        byte[] open = Binary.bytes(0x02, I32);
+        Binary.feed(x, Modules.function(Binary.type(I32), Binary.i32(1), Binary.i32(2), open, Binary.i32(3),
+            Binary.i64(4),
+            Binary.op(0x0b)));
+        CHECKS.throwing("a body that is not valid", x::add, FAULT);
+        Binary.feed(x, Modules.function(Binary.type(I32), Binary.i32(10), open, Binary.i32(1), Binary.i32(5),
+            Binary.op(0x0c, 0), Binary.op(0x0b), Binary.op(0x6a)));
+        CHECKS.answers("a body behind it", x::add, 0);
+        x.merge();
+        x.begin();
+        CHECKS.answers("what it gives", () -> x.call(0, 0), 15);
     }
 
     private static void clearModules() {
@@ -319,7 +331,8 @@ public final class PromiseTest {
     }
 
     private static void mergeRefused() {
-        CHECKS.sentence("IllegalStateException without MODULES; UnsupportedOperationException for a LINK FAULT (4 before 5).");
+        CHECKS.sentence("IllegalStateException without MODULES; UnsupportedOperationException for a LINK FAULT (4 "
+            + "before 5).");
         WasmMerge x = new WasmMerge();
         CHECKS.throwing("in a new object", x::merge, STATE);
         refusedAdd(x, Modules.NOT_VALID, 2);
@@ -370,7 +383,8 @@ public final class PromiseTest {
     }
 
     private static void beginRefused() {
-        CHECKS.sentence("IllegalStateException without THE MERGE; ArithmeticException for a TRAP (it goes on all the same).");
+        CHECKS.sentence("IllegalStateException without THE MERGE; ArithmeticException for a TRAP (it goes on all "
+            + "the same).");
         WasmMerge x = new WasmMerge();
         CHECKS.throwing("in a new object", x::begin, STATE);
         Binary.feed(x, EMPTY);
@@ -438,7 +452,8 @@ public final class PromiseTest {
     }
 
     private static void callArguments() {
-        CHECKS.sentence("is called with the arguments (of i32 the low 32 bits), which are gone by that (not if it is not called)");
+        CHECKS.sentence("is called with the arguments (of i32 the low 32 bits), which are gone by that (not if it "
+            + "is not called)");
         WasmMerge x = Binary.running(Modules.function(Binary.type(I32, I32), Binary.get(0)));
         long[] values = {0x7fffffffL, 0x80000000L, 0xffffffffL, 0x100000000L, 0x100000001L, -1, Long.MIN_VALUE,
             Long.MAX_VALUE,
@@ -483,7 +498,8 @@ public final class PromiseTest {
 
     private static void callRefused() {
         CHECKS.sentence("IllegalStateException without THE RUN; IndexOutOfBoundsException if there is no such export; "
-            + "IllegalArgumentException if it is no function, or has not so many parameters; ArithmeticException for a TRAP.");
+            + "IllegalArgumentException if it is no function, or has not so many parameters; ArithmeticException "
+            + "for a TRAP.");
         WasmMerge x = ofAllSorts();
         CHECKS.throwing("before begin", () -> x.call(1, 0), STATE);
         x.begin();
@@ -611,7 +627,8 @@ public final class PromiseTest {
     }
 
     private static void memoryBytes() {
-        CHECKS.sentence("Byte at of the memory (0 to 255); -1 if there is none. IllegalStateException without THE RUN.");
+        CHECKS.sentence("Byte at of the memory (0 to 255); -1 if there is none. IllegalStateException without THE "
+            + "RUN.");
         int[] ats = {LEAST, -1, 0, 1, 65534, 65535, 65536, 131070, 131071, 131072, GREATEST};
         for (int pages = -1; pages <= 2; pages++) {
             int size = Math.max(pages, 0) * 65536;
@@ -676,8 +693,10 @@ public final class PromiseTest {
 
     /** MODULE 0 is empty, 1 has one of each, 2 as many as may be. */
     private static void told() {
-        CHECKS.sentence("Of MODULE k how many 0: types, 1: imports, 2: functions (with imported ones), 3: globals (likewise), "
-            + "4: exports, 5: elements, 6: data, 7: 1 if it has a start; 10 + j: the sort of its export j (0 function, 1 table, "
+        CHECKS.sentence("Of MODULE k how many 0: types, 1: imports, 2: functions (with imported ones), 3: globals "
+            + "(likewise), "
+            + "4: exports, 5: elements, 6: data, 7: 1 if it has a start; 10 + j: the sort of its export j (0 "
+            + "function, 1 table, "
             + "2 memory, 3 global).");
         byte[] host = Binary.imported("h", "h", 0, Binary.u32(0));
         WasmMerge x = Binary.with(EMPTY,
@@ -738,7 +757,8 @@ public final class PromiseTest {
     }
 
     private static void counts() {
-        CHECKS.sentence("Of THE MERGE how many 0: types (of all MODULES, each once), 1: imports of the HOST (each of each "
+        CHECKS.sentence("Of THE MERGE how many 0: types (of all MODULES, each once), 1: imports of the HOST (each "
+            + "of each "
             + "MODULE), 2: functions (with these), 3: globals, 4: exports (of all MODULES)");
         WasmMerge none = Binary.merged(EMPTY);
         for (int what = 0; what <= 4; what++) {
@@ -839,7 +859,8 @@ public final class PromiseTest {
     }
 
     private static void checks() {
-        CHECKS.sentence("How much of THE MERGE is not valid as one MODULE: always 0. IllegalStateException without it.");
+        CHECKS.sentence("How much of THE MERGE is not valid as one MODULE: always 0. IllegalStateException without "
+            + "it.");
         WasmMerge x = new WasmMerge();
         CHECKS.throwing("in a new object", x::check, STATE);
         Binary.feed(x, QUIET);

@@ -224,7 +224,8 @@ public final class TermOneTest {
     }
 
     private static void instructions() {
-        CHECKS.sentence("INSTRUCTIONS: unreachable, nop, block, loop, if, else, end, br, br_if, br_table, return, call, "
+        CHECKS.sentence("INSTRUCTIONS: unreachable, nop, block, loop, if, else, end, br, br_if, br_table, return, "
+            + "call, "
             + "call_indirect; drop, select; local.get, set, tee, global.get, set; all loads and stores of i32 and i64, "
             + "memory.size, memory.grow; i32.const, i64.const, all tests, comparisons, arithmetic of i32 and i64, "
             + "i32.wrap_i64, i64.extend_i32_s and _u.");
@@ -322,6 +323,11 @@ public final class TermOneTest {
         told("40 types", 0, 40, Binary.types(Binary.times(40, Binary.type(I32, I64))));
         told("the last of 40", 2, 1, Binary.types(Binary.times(40, Binary.type(NO))), Binary.functions(39),
             Binary.codes(BODY));
+        byte[] forty = Binary.types(Binary.times(40, Binary.type(NO)));
+        due(2, "a function of the one behind the last of 40", forty, Binary.functions(40), Binary.codes(BODY));
+        due(2, "an import of it", forty, Binary.imports(Binary.imported("h", "h", 0, Binary.u32(40))));
+        due(2, "an indirect call of it", forty, ONE, TABLE, Binary.codes(Binary.body(ZERO, Binary.indirect(40))));
+        due(0, "an indirect call of the last", forty, ONE, TABLE, Binary.codes(Binary.body(ZERO, Binary.indirect(39))));
         due(3, "41 types", Binary.types(Binary.times(41, Binary.type(I32, I64))));
         due(3, "200 types", Binary.types(Binary.times(200, Binary.type(NO))));
         due(3, "41 types, of which the last is used", Binary.types(Binary.times(41, Binary.type(NO))),
@@ -357,6 +363,19 @@ public final class TermOneTest {
         WasmMerge x = Binary.running(Binary.module(Binary.types(Binary.type(I32)), Binary.functions(new int[60]),
             Binary.exports(Binary.export("f", 0, 59)), Binary.codes(bodies)));
         CHECKS.answers("the last of 60", () -> x.call(0, 0), 59);
+        byte[] sixty = Binary.functions(new int[60]);
+        for (int index = 59; index <= 60; index++) {
+            int due = index == 59 ? 0 : 2;
+            byte[][] empty = Binary.times(60, BODY);
+            byte[] codes = Binary.codes(empty);
+            due(due, "an export of function " + index, NULLARY, sixty, Binary.exports(Binary.export("f", 0, index)),
+                codes);
+            due(due, "a start of function " + index, NULLARY, sixty, Binary.start(index), codes);
+            due(due, "an element of function " + index, NULLARY, sixty, TABLE,
+                Binary.elements(Binary.element(ZERO, index)), codes);
+            empty[0] = Binary.body(Binary.call(index));
+            due(due, "a call of function " + index, NULLARY, sixty, Binary.codes(empty));
+        }
     }
 
     private static void globals() {
@@ -371,6 +390,35 @@ public final class TermOneTest {
         }
         told("30 globals, all imported", 3, 30, Binary.imports(Binary.times(30, import1)));
         due(3, "31 globals, 30 imported", Binary.imports(Binary.times(30, import1)), Binary.globals(GLOBAL));
+        byte[] thirty = Binary.globals(Binary.times(30, Binary.global(I32, 1, ZERO)));
+        byte[] constant = Binary.globals(Binary.times(30, GLOBAL));
+        for (int index = 29; index <= 30; index++) {
+            int due = index == 29 ? 0 : 2;
+            due(due, "an export of global " + index, thirty, Binary.exports(Binary.export("g", 3, index)));
+            due(due, "an element at global " + index, TABLE, constant, Binary.elements(Binary.element(Binary.op(0x23,
+                index))));
+            due(due, "data at global " + index, MEMORY, constant, Binary.data(Binary.datum(Binary.op(0x23, index))));
+            due(due, "global.get of global " + index, NULLARY, ONE, thirty,
+                Binary.codes(Binary.body(Binary.op(0x23, index), DROP)));
+            due(due, "global.set of global " + index, NULLARY, ONE, thirty,
+                Binary.codes(Binary.body(ZERO, Binary.op(0x24, index))));
+        }
+        staleGlobals();
+    }
+
+    /** What a MODULE before had more of is not there for the next one in its place. */
+    private static void staleGlobals() {
+        WasmMerge x = new WasmMerge();
+        for (int many = 30; many >= 28; many--) {
+            Binary.feed(x, Binary.module(TABLE, Binary.globals(Binary.times(many, GLOBAL)),
+                Binary.elements(Binary.element(Binary.op(0x23, many - 1)))));
+            CHECKS.answers(many + " globals", x::add, 0);
+            x.clear();
+            Binary.feed(x, Binary.module(TABLE, Binary.globals(Binary.times(many, GLOBAL)),
+                Binary.elements(Binary.element(Binary.op(0x23, many)))));
+            CHECKS.throwing("the one behind the last of " + many, x::add, UnsupportedOperationException.class);
+            CHECKS.same("its FAULT", x.fault(), 2);
+        }
     }
 
     private static void exports() {
@@ -421,6 +469,34 @@ public final class TermOneTest {
             Binary.times(2, Binary.bodyWith(Binary.locals(30, I32), Binary.NOTHING))));
         due(2, "the local behind the last of 30", NULLARY, ONE,
             Binary.codes(Binary.bodyWith(Binary.locals(30, I32), Binary.join(Binary.get(30), DROP))));
+        allLocals();
+    }
+
+    /** Each of 30 locals is set, by set or by tee; calls of a function with 30 others leave them as they are. */
+    private static void allLocals() {
+        byte[] set = Binary.NOTHING;
+        byte[] sum = Binary.i64(0);
+        for (int i = 1; i < 30; i++) {
+            byte[] value = Binary.i64(i * 1000L + 7);
+            set = Binary.join(set, value, i % 2 == 0 ? Binary.set(i) : Binary.join(Binary.op(0x22, i), DROP));
+            // each counts by its place, so that none can stand for another
+            sum = Binary.join(sum, Binary.get(i), Binary.i64(i), Binary.op(0x7e), Binary.op(0x7c));
+        }
+        long due = 0;
+        for (int i = 1; i < 30; i++) {
+            due += (i * 1000L + 7) * i;
+        }
+        byte[] other = Binary.NOTHING;
+        for (int i = 0; i < 30; i++) {
+            other = Binary.join(other, Binary.i64(-1 - i), Binary.set(i));
+        }
+        WasmMerge x = Binary.running(Binary.module(Binary.types(Binary.type(I64, I64), Binary.type(NO)),
+            Binary.functions(0, 1, 0), Binary.exports(Binary.export("f", 0, 0), Binary.export("z", 0, 2)),
+            Binary.codes(Binary.bodyWith(Binary.locals(29, I64), Binary.join(set, Binary.call(1), sum, Binary.get(0),
+                Binary.op(0x7c))), Binary.bodyWith(Binary.locals(30, I64), other),
+                Binary.bodyWith(Binary.locals(29, I64), Binary.join(sum, Binary.get(0), Binary.op(0x7c))))));
+        CHECKS.answers("30 locals that are set", () -> Binary.callWith(x, 0, 0, 5), due + 5);
+        CHECKS.answers("30 locals that are not set behind that", () -> Binary.callWith(x, 0, 1, 6), 6);
     }
 
     private static void blocks() {
@@ -452,6 +528,14 @@ public final class TermOneTest {
         outside[19] = 1;
         body(2, "20 labels, the last of them outside", ZERO, Binary.labels(0, outside));
         body(2, "20 labels, the one behind outside", ZERO, Binary.labels(1, new int[20]));
+        int[] deep = new int[20];
+        Arrays.fill(deep, 5);
+        byte[] five = Binary.repeat(5, Binary.bytes(0x02, NO));
+        body(0, "20 labels, then a br_table of fewer blocks", five, ZERO, Binary.labels(5, deep), Binary.repeat(5, END),
+            ZERO,
+            Binary.labels(0));
+        due(0, "no label of the block around", Binary.types(Binary.type(I32)), ONE, Binary.codes(Binary.body(
+            Binary.bytes(0x02, NO), ZERO, ZERO, Binary.labels(1, 1), END, ZERO)));
         int[] more = Arrays.copyOf(outside, 21);
         body(3, "21 labels, one outside", ZERO, Binary.labels(0, more));
     }

@@ -40,6 +40,7 @@ public final class TermThreeTest {
         table();
         calls();
         callsInStarts();
+        muchAtOnce();
         steps();
         stepsThatCount();
         stepsOfStarts();
@@ -91,7 +92,8 @@ public final class TermThreeTest {
     }
 
     private static void elements() {
-        CHECKS.sentence("then all elements, then all data, MODULE by MODULE: each is written if all of it fits into the "
+        CHECKS.sentence("then all elements, then all data, MODULE by MODULE: each is written if all of it fits "
+            + "into the "
             + "table or memory");
         for (int size : new int[] {0, 1, 3, 200}) {
             for (int many : new int[] {0, 1, 2, 200}) {
@@ -525,6 +527,21 @@ public final class TermThreeTest {
         CHECKS.same("each start begins anew", Binary.beginTrap(Binary.merged(deep(98), deep(98))), 0);
     }
 
+    /** 100 calls in each other, each with 30 locals and 191 values that stay until it ends: nearly 20000 INSTRUCTIONS. */
+    private static void muchAtOnce() {
+        CHECKS.sentence("5 more than 100 calls in each other");
+        byte[] values = Binary.repeat(191, Binary.get(0));
+        byte[] code = Binary.join(values, Binary.get(0), Binary.op(0x45), Binary.op(0x0d, 0), Binary.get(0), ONE, SUB,
+            Binary.call(0), ADD, Binary.op(0x0f));
+        WasmMerge x = Binary.running(Binary.module(Binary.types(Binary.type(I32, I32)), Binary.functions(0),
+            Binary.exports(Binary.export("f", 0, 0)), Binary.codes(Binary.bodyWith(Binary.locals(29, I64), code))));
+        for (int turn = 0; turn < 5; turn++) {
+            CHECKS.answers("100 calls", () -> Binary.callWith(x, 0, 0, 99), 4950);
+            CHECKS.same("101 calls", Binary.callTrap(x, 0, 0, 100), 5);
+            CHECKS.answers("one call behind that", () -> Binary.callWith(x, 0, 0, 1), 1);
+        }
+    }
+
     /** Export 0 does so many INSTRUCTIONS without any loop: calls of 199 nops, and nops; each number is below 20400. */
     private static byte[] spending(int steps, boolean start) {
         return Binary.module(Binary.types(NULLARY), Binary.functions(0, 0), Binary.exports(Binary.export("f", 0, 0)),
@@ -534,7 +551,8 @@ public final class TermThreeTest {
     }
 
     private static void steps() {
-        CHECKS.sentence("7 more than 20000 INSTRUCTIONS (each that is begun, but else and end, counts) by one call from outside");
+        CHECKS.sentence("7 more than 20000 INSTRUCTIONS (each that is begun, but else and end, counts) by one call "
+            + "from outside");
         for (int steps : new int[] {0, 1, 19999, 20000, 20001, 20002, 20200}) {
             WasmMerge x = Binary.running(spending(steps, false));
             for (int turn = 0; turn < 3; turn++) {

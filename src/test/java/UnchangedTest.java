@@ -288,7 +288,8 @@ public final class UnchangedTest {
     }
 
     private static void addWithFault() {
-        CHECKS.sentence("a FAULT in add() or merge(), behind which THE MERGE (and THE RUN, arguments) are gone as without one");
+        CHECKS.sentence("a FAULT in add() or merge(), behind which THE MERGE (and THE RUN, arguments) are gone as "
+            + "without one");
         byte[][] wrong = {Modules.MALFORMED, Modules.NOT_VALID, Modules.TOO_MUCH};
         for (int i = 0; i < 3; i++) {
             WasmMerge x = Binary.running(rich());
@@ -309,7 +310,8 @@ public final class UnchangedTest {
     }
 
     private static void mergeWithFault() {
-        CHECKS.sentence("a FAULT in add() or merge(), behind which THE MERGE (and THE RUN, arguments) are gone as without one");
+        CHECKS.sentence("a FAULT in add() or merge(), behind which THE MERGE (and THE RUN, arguments) are gone as "
+            + "without one");
         byte[][] wrong = {UNFIT, Modules.memory(Binary.limits(0))};
         for (int i = 0; i < 2; i++) {
             WasmMerge x = Binary.running(rich());

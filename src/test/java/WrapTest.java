@@ -263,10 +263,12 @@ public final class WrapTest {
                 CHECKS.same("i64." + names[which] + " of " + row[0], Binary.callWith(y, 0, 0, row[0]), row[1 + which]);
             }
         }
-        narrow("i32.and", 10, row(MIN, -1, MIN), row(MIN, MAX, 0), row(-1, -1, -1), row(MAX, -1, MAX));
+        narrow("i32.and", 10, row(MIN, 0, 0), row(-1, 0, 0), row(MIN, -1, MIN), row(MIN, MAX, 0), row(-1, -1, -1),
+            row(MAX, -1, MAX));
         narrow("i32.or", 11, row(MIN, MAX, -1), row(MIN, 0, MIN), row(0, 0, 0), row(MAX, -1, -1));
         narrow("i32.xor", 12, row(MIN, -1, MAX), row(MIN, MAX, -1), row(-1, -1, 0), row(MAX, -1, MIN));
-        wide("i64.and", 10, row(LOW, -1, LOW), row(LOW, HIGH, 0), row(-1, 0xffffffffL, 0xffffffffL), row(HIGH, -1,
+        wide("i64.and", 10, row(LOW, 0, 0), row(-1, 0, 0), row(LOW, -1, LOW), row(LOW, HIGH, 0), row(-1, 0xffffffffL,
+            0xffffffffL), row(HIGH, -1,
             HIGH));
         wide("i64.or", 11, row(LOW, HIGH, -1), row(LOW, 0, LOW), row(0x100000000L, 1, 0x100000001L));
         wide("i64.xor", 12, row(LOW, -1, HIGH), row(LOW, HIGH, -1), row(-1, -1, 0), row(-1, 0xffffffffL,
