@@ -27,6 +27,7 @@ public final class TermTwoTest {
         secondLimits();
         hosts();
         hostsThroughImports();
+        hostsOfLaterModules();
         faultOfSortOrType();
         faultOfNone();
         faultOfRing();
@@ -330,6 +331,33 @@ public final class TermTwoTest {
         CHECKS.answers("its number", x::take, 0);
         CHECKS.answers("the other", () -> x.call(2, 0), 0);
         CHECKS.answers("its number", x::take, 1);
+    }
+
+    /** The first function of the first MODULE stays itself, by whatever way it is called, if others have a HOST's. */
+    private static void hostsOfLaterModules() {
+        CHECKS.sentence("An import of a function that does not FIT as there is no such MODULE or export is a HOST's.");
+        byte[] nine = Binary.body(Binary.op(0x23, 0), Binary.i32(9), Binary.op(0x6a), Binary.op(0x24, 0));
+        byte[] first = Binary.module(Binary.types(Binary.type(NO)), Binary.functions(0, 0, 0),
+            Binary.tables(Binary.limits(1)),
+            Binary.globals(Binary.global(I32, 1, Binary.i32(0))),
+            Binary.exports(Binary.export("f", 0, 0), Binary.export("c", 0, 1), Binary.export("i", 0, 2),
+                Binary.export("g", 3, 0)), Binary.start(0), Binary.elements(Binary.element(Binary.i32(0), 0)),
+            Binary.codes(nine, Binary.body(Binary.call(0)), Binary.body(Binary.i32(0), Binary.indirect(0))));
+        byte[] second = Binary.module(Binary.types(Binary.type(NO)), Binary.imports(Binary.imported("h", "h", 0,
+            Binary.u32(0)),
+            Binary.imported("a", "f", 0, Binary.u32(0))), Binary.exports(Binary.export("h", 0, 0), Binary.export("f", 0,
+            1)));
+        WasmMerge x = Binary.running(first, second);
+        CHECKS.answers("as a start", () -> x.global(0, 3), 9);
+        int[][] ways = {{0, 0}, {0, 1}, {0, 2}, {1, 1}};
+        for (int i = 0; i < ways.length; i++) {
+            int[] way = ways[i];
+            CHECKS.answers("call", () -> x.call(way[0], way[1]), 0);
+            CHECKS.answers("export " + way[1] + " of MODULE " + way[0], () -> x.global(0, 3), 18 + 9 * i);
+        }
+        CHECKS.same("nothing is written", x.count(7), 0);
+        CHECKS.answers("the HOST's", () -> x.call(1, 0), 0);
+        CHECKS.same("it writes", x.count(7), 1);
     }
 
     private static void faultOfSortOrType() {
