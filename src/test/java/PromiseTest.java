@@ -24,6 +24,7 @@ public final class PromiseTest {
     }
 
     public static void main(String[] args) {
+        threeBecomeOne();
         calls512();
         newObject();
         feedBytes();
@@ -78,6 +79,55 @@ public final class PromiseTest {
         int rest = length - Binary.module(sections).length - 3;
         byte[] padding = Binary.join(Binary.bytes(0, rest & 127 | 128, rest >> 7), new byte[rest]);
         return Binary.module(Binary.join(sections), padding);
+    }
+
+    /** Number 0 is another type, function and global in each of them, and the table and memory of the last are all's. */
+    private static void threeBecomeOne() {
+        CHECKS.sentence("Modules of WebAssembly that are read, validated, and merged into one: types, functions, globals, "
+            + "exports, a table and a memory get new numbers, what one imports and another exports becomes one; then the "
+            + "merged one is run.");
+        byte[] narrow = Binary.type(I32);
+        byte[] wide = Binary.type(I64);
+        byte[] first = Binary.module(Binary.types(narrow, wide),
+            Binary.imports(Binary.imported("c", "t", 1, Binary.table(Binary.limits(2))),
+                Binary.imported("c", "m", 2, Binary.limits(1))),
+            Binary.functions(0, 1), Binary.globals(Binary.global(I32, 1, Binary.i32(10))),
+            Binary.exports(Binary.export("f", 0, 0), Binary.export("g", 3, 0), Binary.export("h", 0, 1)),
+            Binary.elements(Binary.element(ZERO, 1)),
+            Binary.codes(Binary.body(Binary.i32(4), Binary.access(0x2d, 0, 0), Binary.op(0x23, 0), Binary.op(0x6a)),
+                Binary.body(Binary.i32(1), Binary.indirect(0), Binary.op(0xac))));
+        byte[] second = Binary.module(Binary.types(wide, narrow),
+            Binary.imports(Binary.imported("a", "g", 3, Binary.bytes(I32, 1)), Binary.imported("a", "f", 0, Binary.u32(1)),
+                Binary.imported("c", "t", 1, Binary.table(Binary.limits(0)))),
+            Binary.functions(1, 0), Binary.globals(Binary.global(I64, 0, Binary.i64(300))),
+            Binary.exports(Binary.export("g", 3, 1), Binary.export("f", 0, 2), Binary.export("a", 0, 0)),
+            Binary.elements(Binary.element(Binary.i32(1), 1)),
+            Binary.codes(Binary.body(Binary.i32(20), Binary.op(0x24, 0), Binary.call(0)),
+                Binary.body(ZERO, Binary.indirect(0), Binary.op(0x23, 1), Binary.op(0x7c))));
+        byte[] third = Binary.module(Binary.types(Binary.type(NO, I32), wide),
+            Binary.imports(Binary.imported("b", "f", 0, Binary.u32(1)), Binary.imported("h", "h", 0, Binary.u32(0))),
+            Binary.functions(1), Binary.tables(Binary.limits(2)), Binary.memories(Binary.limits(1)),
+            Binary.globals(Binary.global(I32, 0, Binary.i32(5))),
+            Binary.exports(Binary.export("t", 1, 0), Binary.export("m", 2, 0), Binary.export("r", 0, 2),
+                Binary.export("g", 3, 0)),
+            Binary.codes(Binary.body(Binary.op(0x23, 0), Binary.call(1), Binary.call(0))),
+            Binary.data(Binary.datum(Binary.i32(4), 3)));
+        WasmMerge x = Binary.with(first, second, third);
+        CHECKS.answers("functions, one of the host", x::merge, 6);
+        CHECKS.answers("types", () -> x.count(0), 3);
+        CHECKS.answers("globals", () -> x.count(3), 3);
+        CHECKS.answers("exports", () -> x.count(4), 10);
+        CHECKS.answers("the table's elements", () -> x.count(6), 2);
+        CHECKS.answers("begin", x::begin, 0);
+        CHECKS.answers("the memory's pages", () -> x.count(5), 1);
+        CHECKS.answers("f of the first", () -> x.call(0, 0), 13);
+        CHECKS.answers("the same by the second", () -> x.call(1, 2), 13);
+        CHECKS.answers("from the last to the second, by the table to the first and to the second", () -> x.call(2, 2), 323);
+        CHECKS.answers("the host's number", x::take, 0);
+        CHECKS.answers("its argument", x::take, 5);
+        CHECKS.answers("the first's global", () -> x.global(0, 1), 20);
+        CHECKS.answers("the second's global", () -> x.global(1, 0), 300);
+        CHECKS.answers("the last's global", () -> x.global(2, 3), 5);
     }
 
     private static void calls512() {
